@@ -84,6 +84,11 @@ final class ActingTest {
         x.handle(0, TAKE, 1);
         Check.due("12 a KEY of another DOOR", x.act(0, UNLOCK, 0), -15);
         Check.due("12 refused", x.state(0), 14);
+        x.handle(0, DROP, 1);
+        x.handle(0, TAKE, 0);
+        Check.due("12 a KEY of another DOOR", x.act(0, UNLOCK, 1), -15);
+        x.handle(0, DROP, 0);
+        x.handle(0, TAKE, 1);
         x.lock(0, -1, false);
         Check.due("12 no KEY ahead of 15", x.act(0, LOCK, 0), -13);
         x.lock(0, 0, true);

@@ -42,6 +42,7 @@ final class MakingTest {
             Check.due("2 without WAYS", x.way(19, direction), -1);
         }
         Check.due("2 without WAYS", x.count(4), 0);
+        Check.due("2 behind the last there is none", x.being(20), BAD);
     }
 
     private static void door() {
@@ -64,6 +65,7 @@ final class MakingTest {
         Check.due("3 BAD ahead of FULL", x.door(1, 1), BAD);
         Check.due("3 refused", x.count(1), 15);
         Check.due("3 the last is there", x.state(14), 8);
+        Check.due("3 behind the last there is none", x.state(15), BAD);
     }
 
     private static void exit() {
@@ -223,6 +225,7 @@ final class MakingTest {
         Check.due("9 no more", x.thing(0, 0, 1), FULL);
         Check.due("9 BAD ahead of FULL", x.thing(0, 0, 0), BAD);
         Check.due("9 refused", x.count(2), 30);
+        Check.due("9 behind the last there is none", x.thingIs(30, 0), BAD);
     }
 
     private static void floats() {
@@ -271,5 +274,6 @@ final class MakingTest {
         Check.due("11 no more", x.being(1), FULL);
         Check.due("11 BAD ahead of FULL", x.being(2), BAD);
         Check.due("11 refused", x.count(3), 6);
+        Check.due("11 behind the last there is none", x.beingIs(6, 0), BAD);
     }
 }

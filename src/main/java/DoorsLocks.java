@@ -569,7 +569,8 @@ public final class DoorsLocks {
 
     private boolean holdsAnyKey(Being being) {
         for (int i = 0; i < doorCount; i++) {
-            if (doors[i].key != null && doors[i].key.holder == being) {
+            Door door = doorAt(i);
+            if (door != null && door.key != null && door.key.holder == being) {
                 return true;
             }
         }
@@ -694,12 +695,12 @@ public final class DoorsLocks {
     }
 
     private static boolean goesWith(Being other, Being being, Thing load) {
-        return other == being || (load != null && other.within == load);
+        return other == being || (other != null && load != null && other.within == load);
     }
 
     private void tellOfAll(Being being, Thing load, int direction, int to) {
         for (int i = 0; i < beingCount; i++) {
-            if (goesWith(beings[i], being, load)) {
+            if (goesWith(beingAt(i), being, load)) {
                 int told = 1000 * i + 10 * direction;
                 tellOthersIn(being.room, told, being, load);
                 tellOthersIn(to, told + 1, being, load);
@@ -709,17 +710,19 @@ public final class DoorsLocks {
 
     private void tellOthersIn(int room, int told, Being being, Thing load) {
         for (int i = 0; i < beingCount; i++) {
-            if (beings[i].room == room && !goesWith(beings[i], being, load)) {
-                beings[i].hear(told);
+            Being other = beingAt(i);
+            if (other != null && other.room == room && !goesWith(other, being, load)) {
+                other.hear(told);
             }
         }
     }
 
     private void moveAll(Being being, Thing load, int to) {
         for (int i = 0; i < beingCount; i++) {
-            if (goesWith(beings[i], being, load)) {
-                beings[i].came = beings[i].room;
-                beings[i].room = to;
+            Being other = beingAt(i);
+            if (other != null && goesWith(other, being, load)) {
+                other.came = other.room;
+                other.room = to;
             }
         }
         if (load != null) {

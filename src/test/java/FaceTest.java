@@ -20,13 +20,22 @@ final class FaceTest {
     public static void main(String[] args) {
         Class<?> face = DoorsLocks.class;
         Check.due("public and final", face.getModifiers(), Modifier.PUBLIC | Modifier.FINAL);
+        Check.due("without a package", face.getPackageName().isEmpty(), true);
+        Check.due("of no class above it", face.getSuperclass() == Object.class, true);
+        Check.due("of no interface", face.getInterfaces().length, 0);
+        checkConstructors(face);
         checkMethods(face);
         checkConstants(face);
+        checkClassesInside(face);
+        Check.end();
+    }
+
+    private static void checkConstructors(Class<?> face) {
         Constructor<?>[] constructors = face.getDeclaredConstructors();
         Check.due("constructors", constructors.length, 1);
         Check.due("public constructor", constructors[0].getModifiers(), Modifier.PUBLIC);
         Check.due("its parameters", constructors[0].getParameterCount(), 0);
-        Check.end();
+        Check.due("its exceptions", constructors[0].getExceptionTypes().length, 0);
     }
 
     private static void checkMethods(Class<?> face) {
@@ -36,7 +45,8 @@ final class FaceTest {
             if (isShown(method)) {
                 shown.add(signature(method));
                 publicNames.add(method.getName());
-                Check.due("public: " + method, Modifier.isPublic(method.getModifiers()), true);
+                Check.due("public, of an object: " + method, method.getModifiers(), Modifier.PUBLIC);
+                Check.due("without exceptions: " + method, method.getExceptionTypes().length, 0);
             }
         }
         Check.due("the methods " + shown, shown.equals(METHODS), true);
@@ -52,11 +62,21 @@ final class FaceTest {
         for (Field field : face.getDeclaredFields()) {
             if (isShown(field)) {
                 shown.add(field.getName());
+                Check.due("an int: " + field, field.getType() == int.class, true);
+                int modifiers = Modifier.PUBLIC | Modifier.STATIC | Modifier.FINAL;
+                Check.due("public static final: " + field, field.getModifiers(), modifiers);
             }
         }
         Check.due("the constants " + shown, shown.equals(Set.of("BAD", "FULL")), true);
         Check.due("BAD", DoorsLocks.BAD, -1);
         Check.due("FULL", DoorsLocks.FULL, -2);
+    }
+
+    private static void checkClassesInside(Class<?> face) {
+        for (Class<?> inside : face.getDeclaredClasses()) {
+            Check.due("private: " + inside, Modifier.isPrivate(inside.getModifiers()), true);
+            Check.due("static: " + inside, Modifier.isStatic(inside.getModifiers()), true);
+        }
     }
 
     private static boolean isShown(Member member) {
